@@ -26,6 +26,7 @@ public final class HalfGames {
     private static final int MOST_SETS = 10;
     private static final int MOST_ROUNDS = 60;
     private static final int MOST_TRACED = 16;
+    private static final int MOST_BODIES = 8;
     private static final int TWELVE = 12;
     private static final long WHOLE = 429981696L;
 
@@ -300,7 +301,7 @@ public final class HalfGames {
             return STATE;
         }
         long blind = valueOfAnswer(player);
-        return gainOf(player, blind, solver.solveApart(standing, player, reached, set));
+        return gainOf(player, blind, solver.solve(standing, player, reached, set));
     }
 
     public long fewer(int set, int act) {
@@ -341,7 +342,8 @@ public final class HalfGames {
         if (history.count == 0) {
             return STATE;
         }
-        return history.boundBy(standing, solver, 1 - what);
+        int answering = 1 - what;
+        return solver.solve(standing, answering, history.reachOf(answering), NONE);
     }
 
     public long mean(int set, int act) {
@@ -373,8 +375,7 @@ public final class HalfGames {
         if (!isPlace(place) || what < 0 || what > 1) {
             return BAD;
         }
-        asker.begin(standing);
-        return what == 0 ? asker.sizeOf(place, 0) : asker.markOf(place, 0);
+        return what == 0 ? asker.askSize(standing, place) : asker.askMark(standing, place);
     }
 
     public int trace(int i) {
@@ -456,7 +457,7 @@ public final class HalfGames {
     /** Leaves the player's OWN REACH in the row reached, and the best acts in the solver. */
     private long valueOfAnswer(int player) {
         plan.workOut(standing, player, reached);
-        return solver.solve(standing, player, reached);
+        return solver.solve(standing, player, reached, NONE);
     }
 
     private static long gainOf(int player, long before, long after) {
@@ -485,7 +486,9 @@ public final class HalfGames {
         void lay(int row, int newLane, int n) {
             lane[row] = newLane;
             length[row] = n;
-            Arrays.fill(items, row * MOST_ITEMS, (row + 1) * MOST_ITEMS, 0);
+            for (int i = 0; i < MOST_ITEMS; i++) {
+                items[row * MOST_ITEMS + i] = 0;
+            }
         }
 
         int put(int row, int i, int v) {
@@ -939,55 +942,50 @@ public final class HalfGames {
         private int barredSet = NONE;
         private int barredAct = NONE;
 
-        long solve(Game g, int player, long[] ownReach) {
-            groupBySet(g);
-            return solveGroups(g, player, ownReach);
-        }
-
-        long solveBarred(Game g, int player, long[] ownReach, int set, int act) {
-            barredSet = set;
-            barredAct = act;
-            long made = solve(g, player, ownReach);
-            barredSet = NONE;
-            barredAct = NONE;
-            return made;
-        }
-
-        long solveApart(Game g, int player, long[] ownReach, int set) {
-            groupApart(g, set);
-            return solveGroups(g, player, ownReach);
-        }
-
-        int actOf(Game g, int set) {
-            return bestAct[g.first[set]];
-        }
-
-        private void groupBySet(Game g) {
-            for (int p = 0; p < g.count; p++) {
-                group[p] = g.isHeld(p) ? g.first[g.set[p]] : p;
-            }
-        }
-
-        private void groupApart(Game g, int apart) {
-            for (int p = 0; p < g.count; p++) {
-                through[p] = g.set[p] == apart ? p : p == 0 ? NONE : through[g.above[p]];
-                group[p] = p;
-                for (int q = 0; q < p && g.isHeld(p) && group[p] == p; q++) {
-                    if (g.set[q] == g.set[p] && through[q] == through[p]) {
-                        group[p] = q;
-                    }
-                }
-            }
-        }
-
-        /** All PLACES of a group are behind as many own acts, so those behind more of them go first. */
-        private long solveGroups(Game g, int player, long[] ownReach) {
+        /**
+         * All PLACES of a group are behind as many own acts, so those behind the most of them go first.
+         * The PLACES of the SET apart are known apart; NONE: of no SET.
+         */
+        long solve(Game g, int player, long[] ownReach, int apart) {
+            tellGroups(g, apart);
             for (int level = g.mostOwnActs(player); level >= 0; level--) {
                 addUp(g, player, level);
                 chooseActs(g, player, level);
                 weigh(g, player, level, ownReach);
             }
             return worth[0];
+        }
+
+        long solveBarred(Game g, int player, long[] ownReach, int set, int act) {
+            barredSet = set;
+            barredAct = act;
+            long made = solve(g, player, ownReach, NONE);
+            barredSet = NONE;
+            barredAct = NONE;
+            return made;
+        }
+
+        int actOf(Game g, int set) {
+            return bestAct[g.first[set]];
+        }
+
+        private void tellGroups(Game g, int apart) {
+            for (int p = 0; p < g.count; p++) {
+                through[p] = p == 0 ? NONE : through[g.above[p]];
+                if (apart != NONE && g.set[p] == apart) {
+                    through[p] = p;
+                }
+                group[p] = g.isHeld(p) ? leastAlike(g, p) : p;
+            }
+        }
+
+        private int leastAlike(Game g, int place) {
+            for (int p = g.first[g.set[place]]; p < place; p++) {
+                if (g.set[p] == g.set[place] && through[p] == through[place]) {
+                    return p;
+                }
+            }
+            return place;
         }
 
         private void addUp(Game g, int player, int level) {
@@ -1012,14 +1010,18 @@ public final class HalfGames {
 
         private int chooseAct(Game g, int player, int place) {
             int base = place * MOST_ACTS;
-            int chosen = NONE;
-            for (int act = 0; act < g.ways[place]; act++) {
-                boolean isBarred = g.set[place] == barredSet && act == barredAct;
-                if (!isBarred && (chosen == NONE || gainOf(player, sums[base + chosen], sums[base + act]) > 0)) {
+            int chosen = isBarred(g, place, 0) ? 1 : 0;
+            for (int act = chosen + 1; act < g.ways[place]; act++) {
+                long more = gainOf(player, sums[base + chosen], sums[base + act]);
+                if (more > 0 && !isBarred(g, place, act)) {
                     chosen = act;
                 }
             }
             return chosen;
+        }
+
+        private boolean isBarred(Game g, int place, int act) {
+            return g.set[place] == barredSet && act == barredAct;
         }
 
         private void weigh(Game g, int player, int level, long[] ownReach) {
@@ -1076,13 +1078,13 @@ public final class HalfGames {
                 noteAnswer(g, solver, 1);
             }
             putInto(latest, count);
-            addReach(g, 0, reachOfOne);
-            addReach(g, 1, reachOfTwo);
+            addReach(g, 0);
+            addReach(g, 1);
             count++;
         }
 
         private void noteAnswer(Game g, Solver solver, int player) {
-            boundBy(g, solver, player);
+            solver.solve(g, player, reachOf(player), NONE);
             for (int set = 0; set < MOST_SETS; set++) {
                 if (g.player[set] == player) {
                     done[count * MOST_SETS + set] = solver.actOf(g, set);
@@ -1090,16 +1092,16 @@ public final class HalfGames {
             }
         }
 
-        private void addReach(Game g, int player, long[] into) {
+        private void addReach(Game g, int player) {
+            long[] into = reachOf(player);
             latest.workOut(g, player, latestReach);
             for (int p = 0; p < g.count; p++) {
                 into[p] += latestReach[p];
             }
         }
 
-        /** The VALUE of the player's BEST ANSWER against all ROUNDS of the other. */
-        long boundBy(Game g, Solver solver, int player) {
-            return solver.solve(g, player, player == 0 ? reachOfOne : reachOfTwo);
+        long[] reachOf(int player) {
+            return player == 0 ? reachOfOne : reachOfTwo;
         }
 
         int timesDone(int set, int act) {
@@ -1123,101 +1125,80 @@ public final class HalfGames {
     private static final class Asker {
         final int[] numbers = new int[MOST_TRACED];
         int traced = 0;
-        private Game asked = null;
 
-        void begin(Game g) {
+        long askSize(Game g, int place) {
             traced = 0;
-            asked = g;
+            return runBody(g, sizeBody(g, place), place, 0);
         }
 
-        private void leave(int number) {
+        long askMark(Game g, int place) {
+            traced = 0;
+            return runBody(g, markBody(g, place), place, 0);
+        }
+
+        private static int sizeBody(Game g, int place) {
+            switch (g.kindOf(place)) {
+                case KIND_DEAL:
+                    return 11;
+                case KIND_HELD:
+                    return 12;
+                case KIND_SEEN:
+                    return 13;
+                case KIND_END:
+                    return 14;
+                case KIND_DEAR:
+                    return 15;
+                default:
+                    return 10;
+            }
+        }
+
+        private static int markBody(Game g, int place) {
+            switch (g.kindOf(place)) {
+                case KIND_HELD:
+                case KIND_SEEN:
+                    return 21;
+                case KIND_DEAR:
+                    return 22;
+                default:
+                    return 20;
+            }
+        }
+
+        /** Four BODIES within one another are the most that the document tells; the depth stands guard. */
+        private long runBody(Game g, int body, int place, int depth) {
+            if (depth > MOST_BODIES) {
+                return 0;
+            }
+            leave(body);
+            int next = depth + 1;
+            switch (body) {
+                case 11:
+                    return runBody(g, 10, place, next) + g.ways[place];
+                case 12:
+                    return runBody(g, 10, place, next) + runBody(g, markBody(g, place), place, next);
+                case 13:
+                    return runBody(g, 12, place, next) * g.places[g.set[place]];
+                case 14:
+                    return g.pay[place];
+                case 15:
+                    return runBody(g, 14, place, next) * 2;
+                case 20:
+                    return place;
+                case 21:
+                    return runBody(g, 20, place, next) + 100L * g.set[place];
+                case 22:
+                    return runBody(g, 20, place, next) + runBody(g, sizeBody(g, place), place, next);
+                default:
+                    return g.size[place];
+            }
+        }
+
+        private void leave(int body) {
             if (traced < MOST_TRACED) {
-                numbers[traced] = number;
+                numbers[traced] = body;
                 traced++;
             }
-        }
-
-        /** SIZE and MARK ask for one another once at most; the depth stands guard. */
-        long sizeOf(int place, int depth) {
-            if (asked == null || depth > MOST_BELOW) {
-                return 0;
-            }
-            switch (asked.kindOf(place)) {
-                case KIND_DEAL:
-                    return sizeOfDeal(place);
-                case KIND_HELD:
-                    return sizeOfHeld(place, depth);
-                case KIND_SEEN:
-                    return sizeOfSeen(place, depth);
-                case KIND_END:
-                    return sizeOfEnd(place);
-                case KIND_DEAR:
-                    return sizeOfDear(place);
-                default:
-                    return sizeLent(place);
-            }
-        }
-
-        long markOf(int place, int depth) {
-            if (asked == null || depth > MOST_BELOW) {
-                return 0;
-            }
-            switch (asked.kindOf(place)) {
-                case KIND_HELD:
-                case KIND_SEEN:
-                    return markOfHeld(place);
-                case KIND_DEAR:
-                    return markOfDear(place, depth);
-                default:
-                    return markLent(place);
-            }
-        }
-
-        private long sizeLent(int place) {
-            leave(10);
-            return asked.size[place];
-        }
-
-        private long sizeOfDeal(int place) {
-            leave(11);
-            return sizeLent(place) + asked.ways[place];
-        }
-
-        private long sizeOfHeld(int place, int depth) {
-            leave(12);
-            long lent = sizeLent(place);
-            return lent + markOf(place, depth + 1);
-        }
-
-        private long sizeOfSeen(int place, int depth) {
-            leave(13);
-            return sizeOfHeld(place, depth) * asked.places[asked.set[place]];
-        }
-
-        private long sizeOfEnd(int place) {
-            leave(14);
-            return asked.pay[place];
-        }
-
-        private long sizeOfDear(int place) {
-            leave(15);
-            return 2 * sizeOfEnd(place);
-        }
-
-        private long markLent(int place) {
-            leave(20);
-            return place;
-        }
-
-        private long markOfHeld(int place) {
-            leave(21);
-            return markLent(place) + 100L * asked.set[place];
-        }
-
-        private long markOfDear(int place, int depth) {
-            leave(22);
-            long lent = markLent(place);
-            return lent + sizeOf(place, depth + 1);
         }
     }
 }
