@@ -472,8 +472,11 @@ public final class PromiseTest {
         due("forgets(0) of another GAME", x.forgets(0), 0);
         read(x, "two 0 2 two 0 2 end 1 end 2 end 3;");
         due("a SET below itself", x.forgets(1), 1);
+        due("two GAMES behind FORGOTTEN", x.forgets(0), 0);
         read(x, "one 0 2 two 1 2 end 1 end 2 two 1 2 end 3 end 4;");
         due("acts of the other do not count", x.forgets(1), 0);
+        read(x, "end 1;");
+        due("two GAMES behind", x.forgets(1), 0);
         read(x, "deal 2 6 one 0 2 one 2 2 end 1 end 2 end 3 6 one 1 2 one 2 2 end 1 end 2 end 3;");
         due("unlike SETS, the same act", x.forgets(0), 1);
         read(x, "deal 2 6 one 0 2 one 2 2 end 1 end 2 end 3 6 one 0 2 one 2 2 end 1 end 2 end 3;");
@@ -504,6 +507,14 @@ public final class PromiseTest {
         x.set(0, 1, 13);
         x.set(0, 3, -4);
         due("ITEMS beyond 0 to 12, 12 together", x.mix(4, 0, 1), BAD);
+        x.set(0, 1, -1);
+        x.set(0, 2, 12);
+        x.set(0, 3, 1);
+        due("an ITEM below 0, 12 together", x.mix(4, 0, 1), BAD);
+        x.set(0, 1, MOST);
+        x.set(0, 2, MOST);
+        x.set(0, 3, 14);
+        due("ITEMS that run over to 12", x.mix(4, 0, 1), BAD);
         due("share(4, 2), as it was", x.share(4, 2), 7);
         due("PLACE ahead of a wrong ITEM", x.mix(4, 0, 3), PLACE);
         due("mix(0, 0, 0): no PLACES", x.mix(0, 0, 0), BAD);
@@ -673,7 +684,9 @@ public final class PromiseTest {
         due("fewer(0, 0)", x.fewer(0, 0), 30 * WHOLE);
         due("fewer(0, 1)", x.fewer(0, 1), 20 * WHOLE);
         due("fewer(0, 2)", x.fewer(0, 2), 30 * WHOLE);
+        x.fewer(0, 1);
         due("nothing is barred behind it", x.best(0, 0), 30 * WHOLE);
+        due("nor in the answer", x.answer(0), 1);
         due("fewer(0, 3)", x.fewer(0, 3), BAD);
         due("fewer(0, -1)", x.fewer(0, -1), BAD);
         due("fewer(1, 0)", x.fewer(1, 0), BAD);
@@ -823,6 +836,8 @@ public final class PromiseTest {
         dueAsk(x, 3, 0, 100, 15, 14);
         dueAsk(x, 3, 1, 3 + 100, 22, 20, 15, 14);
         dueAsk(x, 9, 0, 7, 14);
+        HalfGames y = with("one 0 3 two 1 2 end 1 end 2 two 1 2 end 1 end 2 two 1 2 end 1 end 2;");
+        dueAsk(y, 4, 0, (3 + 4 + 100) * 3, 13, 12, 10, 21, 20);
         due("ask(10, 0)", x.ask(10, 0), BAD);
         due("ask(-1, 0)", x.ask(-1, 0), BAD);
         due("ask(0, 2)", x.ask(0, 2), BAD);
