@@ -6,7 +6,7 @@ import java.util.Random;
  * Any numbers in any state: no call throws, what is refused changes nothing but status(), the same calls give
  * the same answers, and no call makes an object.
  */
-public final class AnyCallTest {
+public final class AnyCallTest extends Checks {
     private static final int[] EDGES = {Integer.MIN_VALUE, Integer.MIN_VALUE + 1, -1000000, -41, -2, -1, 0, 1, 2, 3,
         4, 5, 6, 7, 8, 9, 10, 11, 12, 13, 39, 40, 41, 59, 60, 61, 255, 256, 599, 600, Integer.MAX_VALUE - 1,
         Integer.MAX_VALUE};
@@ -17,15 +17,6 @@ public final class AnyCallTest {
         "one 0 2 one 1 2 end 1 end 2 one 1 2 end 3 end 0;",
         "two 0 3 two 1 2 one 2 2 end 1 end 99 end 51 end 3 end 4;",
         "end 50;"};
-
-    private static int wrong = 0;
-
-    private static void fail(String what) {
-        wrong++;
-        if (wrong < 30) {
-            System.out.println(what);
-        }
-    }
 
     private static int any(Random random) {
         return random.nextInt(4) == 0 ? EDGES[random.nextInt(EDGES.length)] : random.nextInt(14) - 1;
@@ -62,13 +53,6 @@ public final class AnyCallTest {
             case 26: return x.trace(a[0]);
             case 27: return x.count(a[0]);
             default: return x.status();
-        }
-    }
-
-    private static void feed(HalfGames x, String told) {
-        byte[] bytes = told.getBytes(StandardCharsets.ISO_8859_1);
-        for (byte b : bytes) {
-            x.feed(b, 1);
         }
     }
 
@@ -135,8 +119,8 @@ public final class AnyCallTest {
             long w = random.nextLong();
             if (isSlow) {
                 dueUnchanged(x, which, a, w);
-            } else if (call(x, which, a, w) != call(y, which, a, w)) {
-                fail("call " + which + " answered otherwise on a second object");
+            } else {
+                due("call " + which + " on a second object", call(y, which, a, w), call(x, which, a, w));
             }
         }
     }
@@ -186,9 +170,6 @@ public final class AnyCallTest {
             }
         }
         dueNoObjects();
-        System.out.println(wrong == 0 ? "any call is answered" : wrong + " faults");
-        if (wrong != 0) {
-            System.exit(1);
-        }
+        finish();
     }
 }

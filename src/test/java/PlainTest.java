@@ -1,4 +1,3 @@
-import java.nio.charset.StandardCharsets;
 import java.util.ArrayList;
 import java.util.Collections;
 import java.util.HashMap;
@@ -10,11 +9,7 @@ import java.util.Random;
  * Games made by a fixed seed, worked out a second time in the plainest way: trees of objects, pure plans tried
  * one by one, the document's own sentences as recursion.
  */
-public final class PlainTest {
-    private static final long WHOLE = 429981696L;
-    private static final long STATE = HalfGames.NOT - 2;
-    private static int wrong = 0;
-    private static int checked = 0;
+public final class PlainTest extends Checks {
     private static String text = "";
 
     private static final class Node {
@@ -134,16 +129,6 @@ public final class PlainTest {
                 }
             }
             return -1;
-        }
-    }
-
-    private static void due(String call, long got, long want) {
-        checked++;
-        if (got != want) {
-            wrong++;
-            if (wrong < 30) {
-                System.out.println(call + " answered " + got + ", due is " + want + " in " + text);
-            }
         }
     }
 
@@ -312,18 +297,6 @@ public final class PlainTest {
         return false;
     }
 
-    private static void feed(HalfGames x, String told) {
-        byte[] bytes = told.getBytes(StandardCharsets.ISO_8859_1);
-        for (int at = 0; at < bytes.length; at += 8) {
-            int n = Math.min(8, bytes.length - at);
-            long w = 0;
-            for (int k = 0; k < n; k++) {
-                w = w << 8 | bytes[at + k] & 255;
-            }
-            x.feed(w, n);
-        }
-    }
-
     private static int[][] firstActs() {
         int[][] plan = new int[10][3];
         for (int s = 0; s < 10; s++) {
@@ -489,8 +462,7 @@ public final class PlainTest {
 
     private static HalfGames read(Maker made) {
         HalfGames x = new HalfGames();
-        feed(x, text);
-        due("game", x.game(), made.nodes.size());
+        due("game", read(x, text), made.nodes.size());
         return x;
     }
 
@@ -504,6 +476,7 @@ public final class PlainTest {
             if (text.length() > 600) {
                 continue;
             }
+            about(text);
             games++;
             mindful += forgets(made.nodes, 0) || forgets(made.nodes, 1) ? 0 : 1;
             largest = Math.max(largest, made.nodes.size());
@@ -517,10 +490,10 @@ public final class PlainTest {
             checkAsks(y, made);
         }
         System.out.println(games + " games, " + mindful + " in which none forgets, the largest of " + largest
-                + " PLACES; " + checked + " answers");
-        System.out.println(wrong == 0 ? "all answers are as due" : wrong + " answers are not as due");
-        if (wrong != 0 || games < 1000 || mindful < games / 2 || mindful == games || largest < 50) {
-            System.exit(1);
+                + " PLACES");
+        if (games < 1000 || mindful < games / 2 || mindful == games || largest < 50) {
+            fail("these are not the games that were meant");
         }
+        finish();
     }
 }

@@ -1,88 +1,5 @@
-import java.nio.charset.StandardCharsets;
-import java.util.Objects;
-
 /** One method for each promise of the document: ordinary inputs, the edges that it names, wrong inputs. */
-public final class PromiseTest {
-    private static final long BAD = HalfGames.NOT - 1;
-    private static final long STATE = HalfGames.NOT - 2;
-    private static final long FULL = HalfGames.NOT - 3;
-    private static final long NULL = HalfGames.NOT - 11;
-    private static final long PLACE = HalfGames.NOT - 12;
-    private static final long KIND = HalfGames.NOT - 13;
-    private static final long SIZE = HalfGames.NOT - 14;
-    private static final long STORE = HalfGames.NOT - 15;
-    private static final long NONE = HalfGames.NONE;
-    private static final long WHOLE = 12L * 12 * 12 * 12 * 12 * 12 * 12 * 12;
-    private static final int LEAST = Integer.MIN_VALUE;
-    private static final int MOST = Integer.MAX_VALUE;
-
-    /** One is dealt high or low and may fold; two sees none of it. */
-    private static final String CARDS =
-            "deal 2 6 one 0 2 two 2 2 end 60 end 70 end 55 6 one 1 2 two 2 2 end 60 end 30 end 45;";
-    /** One does not know at SET 1 what they did at SET 0. */
-    private static final String FORGOTTEN = "one 0 2 one 1 2 end 1 end 2 one 1 2 end 3 end 0;";
-    /** A deal of four: an end, a SET of two PLACES, and one of two. */
-    private static final String FOUR =
-            "deal 4 3 end 1 3 one 0 2 end 5 end 6 3 one 0 2 end 9 end 2 3 two 1 2 end 0 end 99;";
-
-    private static int wrong = 0;
-    private static int promise = 0;
-
-    private static void due(String call, long got, long want) {
-        if (got != want) {
-            wrong++;
-            System.out.println("promise " + promise + ": " + call + " answered " + got + ", due is " + want);
-        }
-    }
-
-    private static long read(HalfGames x, String text) {
-        byte[] bytes = text.getBytes(StandardCharsets.ISO_8859_1);
-        for (int at = 0; at < bytes.length; at += 8) {
-            int n = Math.min(8, bytes.length - at);
-            long w = 0;
-            for (int k = 0; k < n; k++) {
-                w = w << 8 | bytes[at + k] & 255;
-            }
-            x.feed(w, n);
-        }
-        return x.game();
-    }
-
-    private static HalfGames with(String text) {
-        HalfGames x = new HalfGames();
-        long places = read(x, text);
-        if (places < 1) {
-            due("game() of " + text, places, 1);
-        }
-        return x;
-    }
-
-    private static void dueFault(String text, long place, int number) {
-        HalfGames x = new HalfGames();
-        due("game() of <" + text + ">", read(x, text), HalfGames.NOT - 100 - place);
-        due("fault() of <" + text + ">", x.fault(), number);
-        due("count(1) behind it", x.count(1), 0);
-        due("count(6) behind it", x.count(6), 0);
-    }
-
-    private static void dueRead(String text, long places) {
-        HalfGames x = new HalfGames();
-        due("game() of <" + text + ">", read(x, text), places);
-        due("fault() of <" + text + ">", x.fault(), 0);
-    }
-
-    private static void mix(HalfGames x, int set, int... shares) {
-        x.row(7, 0, shares.length);
-        for (int i = 0; i < shares.length; i++) {
-            x.set(7, i, shares[i]);
-        }
-        due("mix of SET " + set, x.mix(set, 7, 0), 1);
-    }
-
-    private static String repeat(String part, int times) {
-        return Objects.requireNonNull(part).repeat(times);
-    }
-
+public final class PromiseTest extends Checks {
     public static void main(String[] args) {
         promise1();
         promise2();
@@ -116,14 +33,11 @@ public final class PromiseTest {
         promise28();
         promise29();
         promise30();
-        System.out.println(wrong == 0 ? "all answers are as due" : wrong + " answers are not as due");
-        if (wrong != 0) {
-            System.exit(1);
-        }
+        finish();
     }
 
     private static void promise1() {
-        promise = 1;
+        about("promise 1");
         HalfGames x = new HalfGames();
         for (int what = 0; what <= 6; what++) {
             due("count(" + what + ")", x.count(what), 0);
@@ -143,7 +57,7 @@ public final class PromiseTest {
     }
 
     private static void promise2() {
-        promise = 2;
+        about("promise 2");
         HalfGames x = new HalfGames();
         due("row(0, 0, 0)", x.row(0, 0, 0), 0);
         due("row(7, 2, 40)", x.row(7, 2, 40), 40);
@@ -168,7 +82,7 @@ public final class PromiseTest {
     }
 
     private static void promise3() {
-        promise = 3;
+        about("promise 3");
         HalfGames x = new HalfGames();
         x.row(0, 0, 2);
         x.row(1, 1, 2);
@@ -194,7 +108,7 @@ public final class PromiseTest {
     }
 
     private static void promise4() {
-        promise = 4;
+        about("promise 4");
         HalfGames x = with("one 0 3 end 1 end 2 end 3;");
         x.row(0, 0, 5);
         int[] items = {4, 5, 3, 9, 9};
@@ -233,7 +147,7 @@ public final class PromiseTest {
     }
 
     private static void promise5() {
-        promise = 5;
+        about("promise 5");
         HalfGames x = new HalfGames();
         x.row(4, 2, 17);
         due("drop(4)", x.drop(4), 17);
@@ -247,7 +161,7 @@ public final class PromiseTest {
     }
 
     private static void promise6() {
-        promise = 6;
+        about("promise 6");
         HalfGames x = new HalfGames();
         due("feed(0, 0)", x.feed(0, 0), BAD);
         due("feed(0, 9)", x.feed(0, 9), BAD);
@@ -273,7 +187,7 @@ public final class PromiseTest {
     }
 
     private static void promise7() {
-        promise = 7;
+        about("promise 7");
         dueRead("end 0;", 1);
         dueRead("end 99;", 1);
         dueRead(" \n end\n07 ;\n\n ", 1);
@@ -305,7 +219,7 @@ public final class PromiseTest {
     }
 
     private static void promise7Faults() {
-        promise = 7;
+        about("promise 7");
         dueFault("", 0, 1);
         dueFault("  ", 2, 1);
         dueFault(";", 0, 1);
@@ -355,7 +269,7 @@ public final class PromiseTest {
     }
 
     private static void promise7Limits() {
-        promise = 7;
+        about("promise 7");
         String down = "";
         for (int k = 0; k < 8; k++) {
             down += "one " + k + " 2 end 1 ";
@@ -409,7 +323,7 @@ public final class PromiseTest {
     }
 
     private static void promise8() {
-        promise = 8;
+        about("promise 8");
         HalfGames x = new HalfGames();
         due("fault() before one", x.fault(), 0);
         read(x, "end 5;");
@@ -420,12 +334,12 @@ public final class PromiseTest {
         due("fault() stays", x.fault(), 2);
         read(x, "deal;");
         due("fault() 1", x.fault(), 1);
-        read(x, repeat("one 0 2 ", 9));
+        read(x, "one 0 2 ".repeat(9));
         due("fault() 3", x.fault(), 3);
     }
 
     private static void promise9() {
-        promise = 9;
+        about("promise 9");
         HalfGames x = with(FOUR);
         long[][] want = {
             {1, NONE, NONE, 4, NONE, 0}, {0, 1, NONE, 0, 0, 1}, {2, NONE, 0, 2, 0, 1}, {0, 5, NONE, 0, 2, 2},
@@ -444,7 +358,7 @@ public final class PromiseTest {
     }
 
     private static void promise10() {
-        promise = 10;
+        about("promise 10");
         HalfGames x = with("one 9 3 two 3 2 end 1 end 2 two 3 2 end 1 end 2 end 0;");
         due("seen(9, 0)", x.seen(9, 0), 0);
         due("seen(9, 1)", x.seen(9, 1), 3);
@@ -462,7 +376,7 @@ public final class PromiseTest {
     }
 
     private static void promise11() {
-        promise = 11;
+        about("promise 11");
         HalfGames x = with(FORGOTTEN);
         due("forgets(0)", x.forgets(0), 1);
         due("forgets(1)", x.forgets(1), 0);
@@ -489,7 +403,7 @@ public final class PromiseTest {
     }
 
     private static void promise12() {
-        promise = 12;
+        about("promise 12");
         HalfGames x = with("one 4 3 end 10 end 20 end 30;");
         due("NULL", x.mix(4, 0, 0), NULL);
         x.row(0, 2, 4);
@@ -531,7 +445,7 @@ public final class PromiseTest {
     }
 
     private static void promise13() {
-        promise = 13;
+        about("promise 13");
         HalfGames x = with("two 4 2 end 10 end 20;");
         due("share(4, 0)", x.share(4, 0), 12);
         due("share(4, 1)", x.share(4, 1), 0);
@@ -543,7 +457,7 @@ public final class PromiseTest {
     }
 
     private static void promise14() {
-        promise = 14;
+        about("promise 14");
         due("no GAME", new HalfGames().value(), STATE);
         due("end 99", with("end 99;").value(), 99 * WHOLE);
         HalfGames x = with("deal 2 5 end 10 7 one 0 2 end 20 end 8;");
@@ -554,7 +468,7 @@ public final class PromiseTest {
     }
 
     private static void promise15() {
-        promise = 15;
+        about("promise 15");
         HalfGames x = with("deal 2 5 end 10 7 one 0 2 two 1 2 end 20 end 8 end 9;");
         mix(x, 0, 1, 11);
         mix(x, 1, 2, 10);
@@ -578,7 +492,7 @@ public final class PromiseTest {
     }
 
     private static void promise16() {
-        promise = 16;
+        about("promise 16");
         HalfGames x = new HalfGames();
         due("no GAME", x.best(0, 0), STATE);
         due("BAD ahead of STATE", x.best(2, 0), BAD);
@@ -609,7 +523,7 @@ public final class PromiseTest {
     }
 
     private static void promise17() {
-        promise = 17;
+        about("promise 17");
         HalfGames x = with(CARDS);
         mix(x, 1, 0, 12);
         // Two meets the high card alone: 60 is less than 70; one gets 60 by staying, against 55 and 45.
@@ -636,7 +550,7 @@ public final class PromiseTest {
     }
 
     private static void promise18() {
-        promise = 18;
+        about("promise 18");
         HalfGames x = with(CARDS);
         mix(x, 0, 3, 9);
         due("belief(2, 0)", x.belief(2, 0), WHOLE / 8);
@@ -653,7 +567,7 @@ public final class PromiseTest {
     }
 
     private static void promise19() {
-        promise = 19;
+        about("promise 19");
         HalfGames x = with(CARDS);
         // Two, seeing: 60 and 30 in place of the least of (60, 60) and (70, 30).
         due("seeing(2)", x.seeing(2), 100 * (WHOLE / 2) - 90 * (WHOLE / 2));
@@ -679,7 +593,7 @@ public final class PromiseTest {
     }
 
     private static void promise20() {
-        promise = 20;
+        about("promise 20");
         HalfGames x = with("one 0 3 end 10 end 30 end 20;");
         due("fewer(0, 0)", x.fewer(0, 0), 30 * WHOLE);
         due("fewer(0, 1)", x.fewer(0, 1), 20 * WHOLE);
@@ -701,11 +615,11 @@ public final class PromiseTest {
     }
 
     private static void promise21() {
-        promise = 21;
+        about("promise 21");
         HalfGames x = new HalfGames();
         due("no GAME", x.rounds(1), STATE);
         due("BAD ahead of STATE", x.rounds(0), BAD);
-        read(x, "one 0 2 two 1 2 end 0 end 9 two 1 2 end 9 end 0;");
+        read(x, PENNIES);
         due("rounds(61)", x.rounds(61), BAD);
         due("rounds(-1)", x.rounds(-1), BAD);
         due("rounds(1)", x.rounds(1), 1);
@@ -724,7 +638,7 @@ public final class PromiseTest {
     }
 
     private static void promise22() {
-        promise = 22;
+        about("promise 22");
         HalfGames x = new HalfGames();
         due("no ROUND", x.bound(0), STATE);
         due("no ROUND", x.bound(1), STATE);
@@ -732,7 +646,7 @@ public final class PromiseTest {
         due("bound(3)", x.bound(3), BAD);
         due("bound(-1)", x.bound(-1), BAD);
         // Pennies: one gets 9 if the acts are unlike. ROUNDS (one two): 00, 10, 10 (two: 9 or 9), 11.
-        read(x, "one 0 2 two 1 2 end 0 end 9 two 1 2 end 9 end 0;");
+        read(x, PENNIES);
         long[][] want = {{0, 9}, {9, 18}, {9, 27}, {9, 27}};
         for (int k = 0; k < want.length; k++) {
             x.rounds(1);
@@ -744,8 +658,8 @@ public final class PromiseTest {
     }
 
     private static void promise23() {
-        promise = 23;
-        HalfGames x = with("one 0 2 two 1 2 end 0 end 9 two 1 2 end 9 end 0;");
+        about("promise 23");
+        HalfGames x = with(PENNIES);
         due("before a ROUND", x.mean(0, 0), 0);
         // The ROUNDS are those of promise 22: 00, 10, 10, 11.
         x.rounds(3);
@@ -764,8 +678,8 @@ public final class PromiseTest {
     }
 
     private static void promise24() {
-        promise = 24;
-        HalfGames x = with("one 0 2 two 1 2 end 0 end 9 two 1 2 end 9 end 0;");
+        about("promise 24");
+        HalfGames x = with(PENNIES);
         due("no ROUND", x.take(0), BAD);
         x.rounds(4);
         mix(x, 0, 5, 7);
@@ -785,7 +699,7 @@ public final class PromiseTest {
     }
 
     private static void promise25() {
-        promise = 25;
+        about("promise 25");
         HalfGames x = with("deal 2 6 one 0 2 end 49 end 50 6 one 0 2 two 1 2 end 0 end 99 end 51;");
         long[] want = {1, 3, 4, 5, 3, 2, 4, 5, 5};
         for (int place = 0; place < want.length; place++) {
@@ -796,7 +710,7 @@ public final class PromiseTest {
     }
 
     private static void promise26() {
-        promise = 26;
+        about("promise 26");
         HalfGames x = with("deal 2 6 one 0 2 end 49 end 50 6 one 0 2 two 1 2 end 0 end 99 end 51;");
         String[] want = {"110000", "101100", "100010", "100011", "101100", "101000", "100010", "100011", "100011"};
         int[] ways = {0, 1, 2, 2, 1, 2, 3, 3, 2};
@@ -822,7 +736,7 @@ public final class PromiseTest {
     }
 
     private static void promise27() {
-        promise = 27;
+        about("promise 27");
         HalfGames x = with("deal 3 2 one 3 2 end 49 end 50 4 one 3 2 two 1 2 end 0 end 99 end 51 6 end 7;");
         dueAsk(x, 0, 0, 10 + 3, 11, 10);
         dueAsk(x, 0, 1, 0, 20);
@@ -846,7 +760,7 @@ public final class PromiseTest {
     }
 
     private static void promise28() {
-        promise = 28;
+        about("promise 28");
         HalfGames x = with("one 3 2 end 49 end 50;");
         due("before an ASK", x.trace(0), NONE);
         x.ask(0, 0);
@@ -861,7 +775,7 @@ public final class PromiseTest {
     }
 
     private static void promise29() {
-        promise = 29;
+        about("promise 29");
         HalfGames x = with(FOUR);
         x.row(2, 0, 0);
         x.row(5, 0, 3);
@@ -876,7 +790,7 @@ public final class PromiseTest {
     }
 
     private static void promise30() {
-        promise = 30;
+        about("promise 30");
         HalfGames x = with("one 0 2 end 1 end 2;");
         due("there was none", x.status(), 0);
         x.row(0, 0, -1);
