@@ -9,6 +9,10 @@ public final class LimitTest extends Checks {
         long on(int number);
     }
 
+    private interface Made {
+        HalfGames anew();
+    }
+
     /** All numbers from least to most are taken; those around and far off answer the refusal. */
     private static void taken(String call, int least, int most, long refusal, Call asked) {
         for (int number = least; number <= most; number++) {
@@ -63,6 +67,7 @@ public final class LimitTest extends Checks {
         promise25To28();
         promise29();
         promise30();
+        theLastCall();
         finish();
     }
 
@@ -289,29 +294,34 @@ public final class LimitTest extends Checks {
         due("count(6)", x.count(6), bytes);
     }
 
+    /** Each call has an object of its own, so that none is used for more than 512 calls. */
+    private static void takesPlaces(Made made, int last) {
+        HalfGames[] x = {made.anew(), made.anew(), made.anew(), made.anew(), made.anew(), made.anew()};
+        taken("place(p, 0)", 0, last, BAD, p -> x[0].place(p, 0));
+        taken("reach(p, 0)", 0, last, BAD, p -> x[1].reach(p, 0));
+        taken("kind(p)", 0, last, BAD, p -> x[2].kind(p));
+        taken("as(p, 0)", 0, last, BAD, p -> x[3].as(p, 0));
+        taken("ask(p, 0)", 0, last, BAD, p -> x[4].ask(p, 0));
+        taken("ask(p, 1)", 0, last, BAD, p -> x[5].ask(p, 1));
+    }
+
     private static void promise9To11() {
         about("PLACES of the largest GAME");
         HalfGames x = with(largest());
         due("count(1)", x.count(1), 60);
         due("count(4)", x.count(4), 10);
-        taken("place(p, 0)", 0, 59, BAD, p -> x.place(p, 0));
-        taken("reach(p, 0)", 0, 59, BAD, p -> x.reach(p, 0));
-        taken("kind(p)", 0, 59, BAD, p -> x.kind(p));
-        taken("as(p, 0)", 0, 59, BAD, p -> x.as(p, 0));
-        taken("ask(p, 0)", 0, 59, BAD, p -> x.ask(p, 0));
-        taken("ask(p, 1)", 0, 59, BAD, p -> x.ask(p, 1));
+        takesPlaces(() -> with(largest()), 59);
         about("PLACES of the least GAME");
         HalfGames y = with("end 0;");
-        taken("place(p, 0)", 0, 0, BAD, p -> y.place(p, 0));
-        taken("reach(p, 0)", 0, 0, BAD, p -> y.reach(p, 0));
-        taken("kind(p)", 0, 0, BAD, p -> y.kind(p));
-        taken("as(p, 0)", 0, 0, BAD, p -> y.as(p, 0));
-        taken("ask(p, 0)", 0, 0, BAD, p -> y.ask(p, 0));
-        taken("ask(p, 1)", 0, 0, BAD, p -> y.ask(p, 1));
+        takesPlaces(() -> with("end 0;"), 0);
         about("a GAME that is smaller than the one before has no more PLACES and SETS than its own");
-        HalfGames z = with(largest());
-        read(z, "two 3 2 end 1 end 2;");
-        taken("place(p, 0)", 0, 2, BAD, p -> z.place(p, 0));
+        Made smaller = () -> {
+            HalfGames made = with(largest());
+            read(made, "two 3 2 end 1 end 2;");
+            return made;
+        };
+        takesPlaces(smaller, 2);
+        HalfGames z = smaller.anew();
         taken("share(s, 0)", 3, 3, BAD, s -> z.share(s, 0));
         taken("share(3, a)", 0, 1, BAD, a -> z.share(3, a));
         about("place: what 0 to 5; of others NONE, 0");
@@ -825,5 +835,21 @@ public final class LimitTest extends Checks {
             x.row(2, 0, 2);
             due("STORE", x.copy(1, 0, 2, 0, 1), STORE);
         }
+    }
+
+    private static void theLastCall() {
+        about("at most 512 calls: the last is answered as the first");
+        HalfGames x = new HalfGames();
+        due("call 1", x.row(0, 2, 2), 2);
+        for (int call = 2; call < 490; call++) {
+            due("call " + call, x.set(0, call % 2, call), call);
+        }
+        feed(x, PENNIES);
+        due("call 497", x.game(), 7);
+        due("call 498", x.rounds(60), 60);
+        for (int call = 499; call < 512; call++) {
+            due("call " + call, x.take(call - 490), 1);
+        }
+        due("call 512", x.take(1), 1);
     }
 }
