@@ -3,7 +3,6 @@ import java.util.Collections;
 import java.util.HashMap;
 import java.util.List;
 import java.util.Map;
-import java.util.Random;
 
 /**
  * Games made by a fixed seed, worked out a second time in the plainest way: trees of objects, pure plans tried
@@ -12,133 +11,13 @@ import java.util.Random;
 public final class PlainTest extends Checks {
     private static String text = "";
 
-    private static final class Node {
-        int number;
-        String what;
-        int pay;
-        int set = -1;
-        int player = -1;
-        Node above;
-        int turn;
-        int shareIn;
-        final List<Node> below = new ArrayList<>();
-
-        int depth() {
-            return above == null ? 0 : above.depth() + 1;
-        }
-
-        List<String> past(int whose) {
-            List<String> list = above == null ? new ArrayList<>() : above.past(whose);
-            if (above != null && above.player == whose) {
-                list.add(above.set + ":" + turn);
-            }
-            return list;
-        }
-
-        int size() {
-            int all = 1;
-            for (Node n : below) {
-                all += n.size();
-            }
-            return all;
-        }
-    }
-
-    private static final class Maker {
-        final Random random;
-        final boolean mindful;
-        final List<Node> nodes = new ArrayList<>();
-        final int[] player = new int[10];
-        final int[] acts = new int[10];
-        final List<List<String>> past = new ArrayList<>();
-        final StringBuilder out = new StringBuilder();
-        int left;
-
-        Maker(long seed) {
-            random = new Random(seed);
-            mindful = random.nextInt(6) != 0;
-            left = 2 + random.nextInt(57);
-            for (int s = 0; s < 10; s++) {
-                player[s] = -1;
-                past.add(null);
-            }
-            make(null, 0, 0);
-            out.append(';');
-        }
-
-        void make(Node above, int turn, int shareIn) {
-            Node n = new Node();
-            n.above = above;
-            n.turn = turn;
-            n.shareIn = shareIn;
-            n.number = nodes.size();
-            nodes.add(n);
-            if (above != null) {
-                above.below.add(n);
-            }
-            int ways = 2 + random.nextInt(3);
-            int dice = random.nextInt(10);
-            boolean stop = n.depth() >= 8 || left < ways || n.depth() > 1 && random.nextInt(4) == 0;
-            int set = dice >= 3 ? findSet(n, dice % 2) : -1;
-            if (stop || dice >= 3 && (set < 0 || left < Math.max(acts[set], 3))) {
-                n.what = "end";
-                n.pay = random.nextInt(100);
-                out.append("end ").append(n.pay).append(' ');
-            } else if (dice < 3) {
-                makeDeal(n, ways);
-            } else {
-                makeHeld(n, set, dice % 2);
-            }
-        }
-
-        void makeDeal(Node n, int ways) {
-            n.what = "deal";
-            left -= ways;
-            out.append("deal ").append(ways).append(' ');
-            int rest = 12;
-            for (int w = 0; w < ways; w++) {
-                int share = w == ways - 1 ? rest : 1 + random.nextInt(rest - (ways - 1 - w));
-                rest -= share;
-                out.append(share).append(' ');
-                make(n, w, share);
-            }
-        }
-
-        void makeHeld(Node n, int set, int whose) {
-            n.what = whose == 0 ? "one" : "two";
-            n.player = whose;
-            n.set = set;
-            if (player[set] < 0) {
-                player[set] = whose;
-                acts[set] = 2 + random.nextInt(2);
-                past.set(set, n.past(whose));
-            }
-            left -= acts[set];
-            out.append(n.what).append(' ').append(set).append(' ').append(acts[set]).append('\n');
-            for (int a = 0; a < acts[set]; a++) {
-                make(n, a, 0);
-            }
-        }
-
-        int findSet(Node n, int whose) {
-            for (int tries = 0; tries < 25; tries++) {
-                int s = random.nextInt(10);
-                boolean like = player[s] == whose && (!mindful || past.get(s).equals(n.past(whose)));
-                if (player[s] < 0 && tries > 8 || like) {
-                    return s;
-                }
-            }
-            return -1;
-        }
-    }
-
     /** Which PLACES are of one SET: told by a key, so that SEEING can tell them otherwise. */
-    private static Map<Node, String> keys(List<Node> nodes, int player, int apart) {
-        Map<Node, String> keys = new HashMap<>();
-        for (Node n : nodes) {
+    private static Map<MadePlace, String> keys(List<MadePlace> nodes, int player, int apart) {
+        Map<MadePlace, String> keys = new HashMap<>();
+        for (MadePlace n : nodes) {
             if (n.player == player) {
                 String by = "none";
-                for (Node m = n; m != null; m = m.above) {
+                for (MadePlace m = n; m != null; m = m.above) {
                     if (m.set >= 0 && m.set == apart) {
                         by = "by " + m.number;
                     }
@@ -149,10 +28,10 @@ public final class PlainTest extends Checks {
         return keys;
     }
 
-    private static long ownReach(Node n, int leftOut, int[][] shares) {
+    private static long ownReach(MadePlace n, int leftOut, int[][] shares) {
         long reach = WHOLE;
-        for (Node m = n; m.above != null; m = m.above) {
-            Node a = m.above;
+        for (MadePlace m = n; m.above != null; m = m.above) {
+            MadePlace a = m.above;
             int part = a.player < 0 ? m.shareIn : a.player == leftOut ? 12 : shares[a.set][m.turn];
             reach = reach / 12;
             reach *= part;
@@ -161,10 +40,10 @@ public final class PlainTest extends Checks {
     }
 
     /** The same product, but in the document's order of words. */
-    private static long reachByPower(Node n, int[][] shares) {
+    private static long reachByPower(MadePlace n, int[][] shares) {
         long reach = 1;
         int ways = 0;
-        for (Node m = n; m.above != null; m = m.above) {
+        for (MadePlace m = n; m.above != null; m = m.above) {
             reach *= m.above.player < 0 ? m.shareIn : shares[m.above.set][m.turn];
             ways++;
         }
@@ -176,19 +55,19 @@ public final class PlainTest extends Checks {
 
     /** The BEST ANSWER, sentence by sentence, with nothing kept. */
     private static final class Answer {
-        final List<Node> nodes;
+        final List<MadePlace> nodes;
         final int player;
-        final Map<Node, String> keys;
+        final Map<MadePlace, String> keys;
         final long[] own;
         int barredSet = -1;
         int barredAct = -1;
 
-        Answer(List<Node> nodes, int player, int apart, List<int[][]> against) {
+        Answer(List<MadePlace> nodes, int player, int apart, List<int[][]> against) {
             this.nodes = nodes;
             this.player = player;
             keys = keys(nodes, player, apart);
             own = new long[nodes.size()];
-            for (Node n : nodes) {
+            for (MadePlace n : nodes) {
                 if (n.what.equals("end")) {
                     for (int[][] shares : against) {
                         own[n.number] += ownReach(n, player, shares);
@@ -197,7 +76,7 @@ public final class PlainTest extends Checks {
             }
         }
 
-        long worth(Node n) {
+        long worth(MadePlace n) {
             if (n.what.equals("end")) {
                 return n.pay * own[n.number];
             }
@@ -205,13 +84,13 @@ public final class PlainTest extends Checks {
                 return worth(n.below.get(bestAct(n)));
             }
             long all = 0;
-            for (Node m : n.below) {
+            for (MadePlace m : n.below) {
                 all += worth(m);
             }
             return all;
         }
 
-        int bestAct(Node n) {
+        int bestAct(MadePlace n) {
             int best = -1;
             long most = 0;
             for (int act = 0; act < n.below.size(); act++) {
@@ -219,7 +98,7 @@ public final class PlainTest extends Checks {
                     continue;
                 }
                 long all = 0;
-                for (Node m : nodes) {
+                for (MadePlace m : nodes) {
                     if (m.player == player && keys.get(m).equals(keys.get(n))) {
                         all += worth(m.below.get(act));
                     }
@@ -234,13 +113,14 @@ public final class PlainTest extends Checks {
     }
 
     /** The most that any pure plan makes, by trying them all; null where they are too many. */
-    private static Long tryAll(List<Node> nodes, int player, int apart, int[][] plan, int barredSet, int barredAct) {
-        Map<Node, String> keys = keys(nodes, player, apart);
+    private static Long tryAll(List<MadePlace> nodes, int player, int apart, int[][] plan, int barredSet,
+            int barredAct) {
+        Map<MadePlace, String> keys = keys(nodes, player, apart);
         List<String> names = new ArrayList<>();
         List<Integer> sizes = new ArrayList<>();
         List<Integer> sets = new ArrayList<>();
         long many = 1;
-        for (Node n : nodes) {
+        for (MadePlace n : nodes) {
             if (n.player == player && !names.contains(keys.get(n))) {
                 names.add(keys.get(n));
                 sizes.add(n.below.size());
@@ -270,8 +150,8 @@ public final class PlainTest extends Checks {
         return most;
     }
 
-    private static long play(Node n, int player, Map<Node, String> keys, Map<String, Integer> acts, int[][] plan,
-            long reach) {
+    private static long play(MadePlace n, int player, Map<MadePlace, String> keys, Map<String, Integer> acts,
+            int[][] plan, long reach) {
         if (n.what.equals("end")) {
             return n.pay * reach;
         }
@@ -279,15 +159,15 @@ public final class PlainTest extends Checks {
             return play(n.below.get(acts.get(keys.get(n))), player, keys, acts, plan, reach);
         }
         long all = 0;
-        for (Node m : n.below) {
+        for (MadePlace m : n.below) {
             all += play(m, player, keys, acts, plan, reach / 12 * (n.player < 0 ? m.shareIn : plan[n.set][m.turn]));
         }
         return all;
     }
 
-    private static boolean forgets(List<Node> nodes, int player) {
-        for (Node a : nodes) {
-            for (Node b : nodes) {
+    private static boolean forgets(List<MadePlace> nodes, int player) {
+        for (MadePlace a : nodes) {
+            for (MadePlace b : nodes) {
                 if (a.player == player && b.player == player && a.set == b.set
                         && !a.past(player).equals(b.past(player))) {
                     return true;
@@ -305,7 +185,7 @@ public final class PlainTest extends Checks {
         return plan;
     }
 
-    private static int[][] mixPlan(HalfGames x, Maker made) {
+    private static int[][] mixPlan(HalfGames x, MadeGame made) {
         int[][] plan = firstActs();
         for (int s = 0; s < 10; s++) {
             if (made.player[s] >= 0) {
@@ -322,10 +202,10 @@ public final class PlainTest extends Checks {
         return plan;
     }
 
-    private static void checkPlaces(HalfGames x, Maker made, int[][] plan) {
+    private static void checkPlaces(HalfGames x, MadeGame made, int[][] plan) {
         long value = 0;
         long[] belief = new long[10];
-        for (Node n : made.nodes) {
+        for (MadePlace n : made.nodes) {
             due("reach", x.reach(n.number, 0), reachByPower(n, plan));
             due("own reach of one", x.reach(n.number, 1), ownReach(n, 0, plan));
             due("own reach of two", x.reach(n.number, 2), ownReach(n, 1, plan));
@@ -337,14 +217,14 @@ public final class PlainTest extends Checks {
             }
         }
         due("value", x.value(), value);
-        for (Node n : made.nodes) {
+        for (MadePlace n : made.nodes) {
             if (n.set >= 0) {
                 due("belief", x.belief(n.number, 1), belief[n.set]);
             }
         }
     }
 
-    private static void checkAnswers(HalfGames x, Maker made, int[][] plan, int player) {
+    private static void checkAnswers(HalfGames x, MadeGame made, int[][] plan, int player) {
         boolean forgets = forgets(made.nodes, player);
         due("forgets(" + player + ")", x.forgets(player), forgets ? 1 : 0);
         List<int[][]> against = Collections.singletonList(plan);
@@ -359,7 +239,7 @@ public final class PlainTest extends Checks {
             due("all plans of " + player, best, tried);
         }
         boolean[] done = new boolean[10];
-        for (Node n : made.nodes) {
+        for (MadePlace n : made.nodes) {
             if (n.player == player && !done[n.set]) {
                 done[n.set] = true;
                 checkSet(x, made, plan, n, forgets, best);
@@ -367,7 +247,7 @@ public final class PlainTest extends Checks {
         }
     }
 
-    private static void checkSet(HalfGames x, Maker made, int[][] plan, Node n, boolean forgets, long best) {
+    private static void checkSet(HalfGames x, MadeGame made, int[][] plan, MadePlace n, boolean forgets, long best) {
         if (forgets) {
             due("answer", x.answer(n.set), STATE);
             due("seeing", x.seeing(n.set), STATE);
@@ -394,7 +274,7 @@ public final class PlainTest extends Checks {
         }
     }
 
-    private static void checkRounds(HalfGames x, Maker made, int many) {
+    private static void checkRounds(HalfGames x, MadeGame made, int many) {
         if (forgets(made.nodes, 0) || forgets(made.nodes, 1)) {
             due("rounds", x.rounds(1), STATE);
             return;
@@ -405,7 +285,7 @@ public final class PlainTest extends Checks {
             for (int player = 0; player < 2 && k > 0; player++) {
                 Answer answer = new Answer(made.nodes, player, -1, ahead);
                 boolean[] done = new boolean[10];
-                for (Node n : made.nodes) {
+                for (MadePlace n : made.nodes) {
                     if (n.player == player && !done[n.set]) {
                         done[n.set] = true;
                         acts[n.set] = new int[3];
@@ -417,7 +297,7 @@ public final class PlainTest extends Checks {
         }
         due("rounds", x.rounds(many - 1), many - 1);
         due("rounds", x.rounds(1), many);
-        Node top = made.nodes.get(0);
+        MadePlace top = made.nodes.get(0);
         due("LOWER", x.bound(0), new Answer(made.nodes, 1, -1, ahead).worth(top));
         due("UPPER", x.bound(1), new Answer(made.nodes, 0, -1, ahead).worth(top));
         for (int s = 0; s < 10; s++) {
@@ -438,14 +318,14 @@ public final class PlainTest extends Checks {
         }
     }
 
-    private static void checkAsks(HalfGames x, Maker made) {
+    private static void checkAsks(HalfGames x, MadeGame made) {
         int[] places = new int[10];
-        for (Node n : made.nodes) {
+        for (MadePlace n : made.nodes) {
             if (n.set >= 0) {
                 places[n.set]++;
             }
         }
-        for (Node n : made.nodes) {
+        for (MadePlace n : made.nodes) {
             long mark = n.number + (n.set >= 0 ? 100 * n.set : n.what.equals("end") && n.pay >= 50 ? 2 * n.pay : 0);
             long size = n.size();
             if (n.what.equals("end")) {
@@ -460,7 +340,7 @@ public final class PlainTest extends Checks {
         }
     }
 
-    private static HalfGames read(Maker made) {
+    private static HalfGames read(MadeGame made) {
         HalfGames x = new HalfGames();
         due("game", read(x, text), made.nodes.size());
         return x;
@@ -471,7 +351,7 @@ public final class PlainTest extends Checks {
         int mindful = 0;
         int largest = 0;
         for (long seed = 1; seed <= 3000; seed++) {
-            Maker made = new Maker(seed);
+            MadeGame made = new MadeGame(seed, 60);
             text = made.out.toString();
             if (text.length() > 600) {
                 continue;
