@@ -556,6 +556,43 @@ public final class LimitTest extends Checks {
         forgetful("the last 8 acts", "one 0 2 end 0 one 1 2 end 0 one 2 2 end 0 one 3 2 end 0 one 4 2 end 0 "
                 + "one 5 2 end 0 one 6 2 one 7 2 end 0 end 0 one 7 2 end 0 end 0;", 1, 0);
         forgetful("no PLACE", "end 5;", 0, 0);
+        anyTwoRows();
+    }
+
+    /** A PLACE of one with three acts, of which one leads on. */
+    private static String leadsOn(int set, int act, String on) {
+        return "one " + set + " 3 " + "end 1 ".repeat(act) + on + "end 1 ".repeat(2 - act);
+    }
+
+    /** SET 9 is come to by rows of two SETS each, all told apart: by one row twice, or by any two that are unlike. */
+    private static void anyTwoRows() {
+        for (int a = 0; a < 9; a++) {
+            for (int b = 0; b < 9; b++) {
+                for (int acts = 0; acts < 9 && a != b; acts++) {
+                    String row = leadsOn(a, acts % 3, leadsOn(b, acts / 3, "one 9 2 end 1 end 2 "));
+                    dueForgets("deal 2 6 " + row + "6 " + row + ";", 0);
+                    anyOtherRow(a, b, row);
+                }
+            }
+        }
+    }
+
+    private static void anyOtherRow(int a, int b, String row) {
+        for (int c = 0; c < 9; c++) {
+            // One more by which the sums of both rows are like; where there is no such SET, any will do.
+            int d = Math.min(8, Math.max(0, a + b - c));
+            boolean isApart = c != d && c != a && c != b && d != a && d != b;
+            for (int acts = 0; acts < 9 && isApart; acts++) {
+                String other = leadsOn(c, acts % 3, leadsOn(d, acts / 3, "one 9 2 end 1 end 2 "));
+                dueForgets("deal 2 6 " + row + "6 " + other + ";", 1);
+            }
+        }
+    }
+
+    private static void dueForgets(String text, int want) {
+        HalfGames x = with(text);
+        due("forgets(0) of <" + text + ">", x.forgets(0), want);
+        due("forgets(1) of <" + text + ">", x.forgets(1), 0);
     }
 
     private static void forgetful(String what, String text, int one, int two) {
